@@ -64,11 +64,7 @@ public final class VoteFiles {
     // ---- what is done
 
     public int reads(int group) {
-        if (!isGroup(group)) {
-            return BAD;
-        }
-        meeting.look(now, group);
-        int refusal = meeting.refusal(meeting.read, true);
+        int refusal = lookToRead(group);
         if (refusal != NOT_REFUSED) {
             return refusal;
         }
@@ -91,11 +87,7 @@ public final class VoteFiles {
     }
 
     public int mends(int group) {
-        if (!isGroup(group)) {
-            return BAD;
-        }
-        meeting.look(now, group);
-        int refusal = meeting.refusal(meeting.read, true);
+        int refusal = lookToRead(group);
         if (refusal != NOT_REFUSED) {
             return refusal;
         }
@@ -306,6 +298,15 @@ public final class VoteFiles {
             case 7: return past.size;
             default: return BAD;
         }
+    }
+
+    /** Looks at a GROUP: why it can't be READ in, or NOT_REFUSED. */
+    private int lookToRead(int group) {
+        if (!isGroup(group)) {
+            return BAD;
+        }
+        meeting.look(now, group);
+        return meeting.refusal(meeting.read, true);
     }
 
     private boolean isCopy(int copy) {
@@ -672,12 +673,9 @@ public final class VoteFiles {
             return sum;
         }
 
-        /** One more CONFIGURATION, as an old one: its number, or NONE where there is no room. */
+        /** One more CONFIGURATION, as an old one: its number. The caller has seen that there is room. */
         int addLike(int old) {
             int number = row[CONFIGURATIONS];
-            if (number >= MOST_CONFIGURATIONS) {
-                return NONE;
-            }
             System.arraycopy(row, FIRST + old * WIDTH, row, FIRST + number * WIDTH, WIDTH);
             row[CONFIGURATIONS] = number + 1;
             return number;

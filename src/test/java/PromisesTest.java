@@ -147,6 +147,12 @@ public final class PromisesTest {
         fileDue("Copy 1;", -10);
         fileDue("cOpy 1;", -10);
         fileDue("copying 1;", -10);
+        fileDue("xopy 1;", -10);
+        fileDue("copx 1;", -10);
+        fileDue("copy 1;bead 1;write 1;", -17);
+        fileDue("copy 1;read 1;wrote 1;", -24);
+        fileDue("copy 1;witless 1;read 1;", -17);
+        fileDue("copy 1;write 1;write", -25);
         fileDue("copy 00;", -15);
         fileDue("copy 01;", -15);
         fileDue("copy 6;", -15);
