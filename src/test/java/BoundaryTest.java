@@ -536,12 +536,40 @@ public final class BoundaryTest {
         due("back(1)", files.back(1), STATE);
         due("unseen(0)", files.unseen(0), 2);
         due("clear()", files.clear(), 0);
+        due("asked(): that stays", files.asked(), 8);
         due("flips(0)", files.flips(0), 0);
         due("undo() of what came behind", files.undo(), 0);
         due("keep(0)", files.keep(0), 1);
         due("file() of nothing", files.file(), 0);
         due("back(0)", files.back(0), STATE);
         countDue(files, 0, 1, 1, 1, 0, 0, 0, 0);
+    }
+
+    private static void nothingIsLeft() {
+        sentence("THE TEXT tells all anew: nothing is left of a text that was told, or refused, before");
+        VoteFiles files = told("witness 5;witness 5;witness 5;copy 5;read 11;write 12;");
+        tell(files, THREE);
+        countDue(files, 3, 1, 2, 2, 3);
+        for (int copy = 0; copy < 3; copy++) {
+            copyDue(files, copy, 1, 0, 0, 0, 0, 1, 0);
+        }
+        type(files, "read 9;write 9;witness 4;witness 4;witness 4;copy 4;copy");
+        due("file() that is refused", files.file(), -66);
+        files.clear();
+        type(files, "copy 1;read 1;");
+        due("file() without a write", files.file(), -24);
+        files.clear();
+        type(files, THREE);
+        due("file()", files.file(), 5);
+        countDue(files, 3, 1, 2, 2, 3);
+        for (int copy = 0; copy < 3; copy++) {
+            copyDue(files, copy, 1, 0, 0, 0, 0, 1, 0);
+        }
+        due("the number of the first CONFIGURATION", files.votes(0, 0, 1, 1, 2, 2), 1);
+        tell(files, THREE);
+        due("count(1)", files.count(1), 1);
+        due("votes once more", files.votes(0, 1, 1, 0, 2, 2), 1);
+        copyDue(files, 0, 1, 0, 0, 0, 1, 1, 0);
     }
 
     private static void newObject() {
@@ -566,6 +594,26 @@ public final class BoundaryTest {
     }
 
     // ---- what is done
+
+    private static void lastCall() {
+        sentence("An object is used for at most 512 calls after it has been made");
+        VoteFiles files = new VoteFiles();
+        int calls = 0;
+        for (int i = 0; i < ONE.length(); i++) {
+            calls++;
+            due("type, call " + calls, files.type(ONE.charAt(i)), i + 1);
+        }
+        calls++;
+        due("file(), call " + calls, files.file(), 3);
+        int version = 0;
+        while (calls < 510) {
+            calls++;
+            version++;
+            due("writes, call " + calls, files.writes(0, version), version);
+        }
+        due("reads, call 511", files.reads(0), version);
+        due("asked(), call 512", files.asked(), version);
+    }
 
     private static void groupsTold() {
         sentence("of a GROUP (0 .. 2)");
@@ -1130,13 +1178,90 @@ public final class BoundaryTest {
     }
 
     private static void byTheNewest() {
-        sentence("VOTES by the newest CONFIGURATION, whether it is a WITNESS by that");
+        sentence("By the newest CONFIGURATION (the last one there is)");
         VoteFiles files = told(THREE);
         files.flips(2);
         files.votes(0, 2, 0, 1, 1, 2);
         copyDue(files, 2, 0, 0, 0, 0, 0, 0, 1);
         files.votes(0, 2, 5, 0, 4, 4);
         copyDue(files, 2, 0, 0, 0, 0, 0, 5, 0);
+        // Those who know of it are DOWN; it is the newest all the same.
+        files.flips(0);
+        files.flips(1);
+        files.flips(2);
+        groupDue(files, 0, 4, 0, 1, 0, 1, 0, 0, 0);
+        countDue(files, 3, 3, 4, 4, 7);
+        due("least(0)", files.least(0), 4);
+        chanceDue(files, 3, 0, 3, 10);
+        files.sees(1, 0);
+        due("unseen(1)", files.unseen(1), 4);
+        copyDue(files, 2, 1, 0, 0, 0, 0, 5, 0);
+        files.undo();
+        files.undo();
+        files.undo();
+        files.undo();
+        countDue(files, 3, 2, 1, 2, 2);
+        due("least(0)", files.least(0), 1);
+        due("least(1)", files.least(1), 3);
+        chanceDue(files, 3, 0, 51, 100);
+        due("unseen(1)", files.unseen(1), 1);
+    }
+
+    private static void byWhatIsKnown() {
+        sentence("KNOWN is the greatest number that any of these has; by that VOTES of those PRESENT are counted");
+        VoteFiles files = told(THREE);
+        files.moves(2, 1);
+        files.votes(0, 2, 5, 0, 5, 6);
+        groupDue(files, 0, 3, 1, 2, 0, 1, 0, 0, 0);
+        groupDue(files, 1, 4, 0, 1, 0, 1, 0, 0, 0);
+        due("votes: by what is KNOWN there it is LAWFUL", files.votes(1, 2, 1, 0, 2, 2), FEW);
+        due("votes: by that it is not", files.votes(1, 0, 1, 0, 5, 6), STATE);
+        files.moves(0, 1);
+        groupDue(files, 1, 5, 1, 6, 0, 1, 1, 1, 1);
+        due("votes: LAWFUL by the newer one", files.votes(1, 2, 5, 0, 4, 4), 2);
+        files.undo();
+        due("votes: all else as in KNOWN", files.votes(1, 0, 0, 0, 6, 6), 2);
+        copyDue(files, 1, 1, 0, 0, 0, 1, 1, 0);
+        copyDue(files, 2, 1, 1, 0, 0, 2, 5, 0);
+        countDue(files, 3, 3, 6, 6, 6);
+        // COPY 1 knows an old one that is not the first.
+        files.flips(0);
+        groupDue(files, 0, 2, 1, 1, 0, 1, 0, 0, 0);
+        due("reads(0)", files.reads(0), FEW);
+        files.moves(1, 1);
+        groupDue(files, 1, 6, 2, 6, 0, 1, 1, 1, 1);
+        due("writes(1, 4)", files.writes(1, 4), 1);
+        copyDue(files, 1, 1, 1, 1, 4, 2, 1, 0);
+        // READ and WRITE are KNOWN's, too: by the newest the one VOTE of COPY 2 would be enough.
+        files = told(THREE);
+        files.moves(2, 1);
+        files.votes(0, 2, 0, 0, 1, 2);
+        files.votes(0, 1, 0, 0, 1, 1);
+        groupDue(files, 1, 4, 0, 1, 0, 1, 0, 0, 0);
+        due("reads(1)", files.reads(1), FEW);
+        due("writes(1, 4)", files.writes(1, 4), FEW);
+        due("mends(1)", files.mends(1), FEW);
+        groupDue(files, 0, 3, 2, 1, 0, 1, 1, 1, 1);
+    }
+
+    private static void dataOfAWitness() {
+        sentence("It has DATA, if one PRESENT with VERSION LATEST has a VALUE.");
+        VoteFiles files = told("copy 1;witness 1;copy 1;read 2;write 2;");
+        files.writes(0, 6);
+        files.flips(2);
+        files.votes(0, 2, 1, 1, 2, 2);
+        files.flips(2);
+        files.flips(0);
+        // By KNOWN both are WITNESSES; COPY 2 was away then, and has its VALUE still.
+        groupDue(files, 0, 6, 1, 2, 1, 1, 1, 1, 1);
+        due("reads(0)", files.reads(0), 1);
+        due("asked()", files.asked(), 6);
+        due("mends(0)", files.mends(0), 0);
+        copyDue(files, 2, 1, 0, 1, NONE, 1, 1, 1);
+        groupDue(files, 0, 6, 1, 2, 1, 0, 0, 1, 0);
+        due("reads(0) behind that", files.reads(0), STALE);
+        files.flips(0);
+        groupDue(files, 0, 7, 1, 3, 1, 1, 1, 1, 1);
     }
 
     private static void groupAsked() {
@@ -1282,6 +1407,10 @@ public final class BoundaryTest {
         bestDue(new VoteFiles(), 5, 5, NONE, NONE, NONE);
         bestDue(new VoteFiles(), 0, 0, NONE, NONE, NONE);
         bestDue(new VoteFiles(), 10, 10, NONE, NONE, NONE);
+        VoteFiles gone = told(THREE);
+        bestDue(gone, 9, 5, 9720, 21, 2);
+        gone.file();
+        bestDue(gone, 9, 5, NONE, NONE, NONE);
         leavesAll(EMPTY, "best(11, 0, 0): BAD ahead of NONE", files -> files.best(11, 0, 0), BAD);
         leavesAll(EMPTY, "best(0, 11, 0): BAD ahead of NONE", files -> files.best(0, 11, 0), BAD);
         leavesAll(EMPTY, "best(0, 0, 3): BAD ahead of NONE", files -> files.best(0, 0, 3), BAD);
@@ -1517,10 +1646,12 @@ public final class BoundaryTest {
         types();
         clears();
         readAnew();
+        nothingIsLeft();
         newObject();
     }
 
     private static void doings() {
+        lastCall();
         groupsTold();
         copiesTold();
         readVotes();
@@ -1552,6 +1683,8 @@ public final class BoundaryTest {
     private static void askings() {
         copyAsked();
         byTheNewest();
+        byWhatIsKnown();
+        dataOfAWitness();
         groupAsked();
         groupOfNobody();
         groupCan();
