@@ -341,7 +341,7 @@ public final class VoteFiles {
 
         /** The letter at a place, or NONE where there is no such place. */
         int at(int place) {
-            return isWithin(place, 0, length - 1) ? letters[place] : NONE;
+            return place >= 0 && place < length ? letters[place] : NONE;
         }
     }
 
@@ -482,7 +482,7 @@ public final class VoteFiles {
             if (tokens.kind != Tokens.SEMICOLON) {
                 return false;
             }
-            record(word, number);
+            addItem(word, number);
             return true;
         }
 
@@ -503,7 +503,7 @@ public final class VoteFiles {
             return isWithin(number, 0, MOST_VOTES);
         }
 
-        private void record(int word, int number) {
+        private void addItem(int word, int number) {
             items++;
             if (word == Tokens.READ) {
                 read = number;
